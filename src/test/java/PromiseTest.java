@@ -252,6 +252,24 @@ public final class PromiseTest {
         Check.same("weak references go with them", x.seen(0), 9);
         Check.same("exactly what is free", x.make(1), 2);
         Check.same("exactly what is free", x.count(FREE_WORDS), 0);
+        RingHeap y = new RingHeap();
+        y.type(0, 0, 28, false);
+        y.type(1, 0, 8, false);
+        y.type(2, 0, 58, false);
+        y.type(3, 0, 59, false);
+        for (int i = 0; i < 13; i++) {
+            y.make(0);
+        }
+        y.make(1);
+        y.loose(3);
+        y.loose(7);
+        Check.same("one word too much", y.make(3), FULL);
+        Check.same("nothing moves for that", y.count(MOVES), 0);
+        Check.same("as much as is free in all", y.make(2), 3);
+        Check.same("address", y.object(3, ADDRESS), 340);
+        Check.same("moved", y.count(MOVES), 1);
+        Check.same("collected each time", y.count(COLLECTIONS), 2);
+        Check.same("nothing is free", y.count(FREE_WORDS), 0);
     }
 
     private static void promise3MakeWithoutNumber() {
@@ -287,6 +305,9 @@ public final class PromiseTest {
         Check.same("the count is told", x.hold(0), 3);
         Check.same("black again", x.object(0, COLOUR), 0);
         Check.same("still in the list", x.object(0, LISTED), 1);
+        x.loose(0);
+        Check.same("purple again, in the list already", x.object(0, COLOUR), 3);
+        x.hold(0);
         x.make(1);
         Check.same("green", x.hold(1), 2);
         Check.same("green stays", x.object(1, COLOUR), 4);
@@ -628,6 +649,15 @@ public final class PromiseTest {
         x.collect();
         Check.same("grayed even so", x.count(GRAYED), 6);
         Check.same("blackened even so", x.count(BLACKENED), 6);
+        x.make(1);
+        x.set(0, 1, 3);
+        x.hold(0);
+        x.loose(0);
+        x.collect();
+        Check.same("green is not counted in a collection", x.object(3, COUNT), 2);
+        Check.same("green stays", x.object(3, COLOUR), 4);
+        Check.same("green is not grayed", x.count(GRAYED), 9);
+        Check.same("green is not blackened", x.count(BLACKENED), 9);
         // A ring that is gone through from a white one, and is then found to be held.
         RingHeap y = heap();
         y.make(0);
