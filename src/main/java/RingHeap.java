@@ -404,7 +404,7 @@ public final class RingHeap {
         int place(Kind kind) {
             int number = leastFreeNumber();
             int address = words.gapFor(kind.size);
-            if (number == NONE || address == NONE) {
+            if (number < 0 || number >= OBJECTS || address < 0) {
                 return FULL;
             }
             Thing thing = new Thing(number, kind);
@@ -415,15 +415,20 @@ public final class RingHeap {
         }
 
         void free(Thing thing) {
+            int number = thing.number;
+            if (number < 0 || number >= OBJECTS) {
+                return;
+            }
             words.takeBack(thing);
-            things[thing.number] = null;
+            things[number] = null;
             thingsThere--;
             for (int w = 0; w < WEAK_REFERENCES; w++) {
                 if (weaks[w] == thing) {
                     weaks[w] = null;
                 }
             }
-            freedNumbers[freedEver % FREED_TOLD] = thing.number;
+            // floorMod: the place is one of the row even if the counter ever passed the largest int.
+            freedNumbers[Math.floorMod(freedEver, FREED_TOLD)] = number;
             freedEver++;
         }
 
@@ -540,7 +545,7 @@ public final class RingHeap {
         // Who is out of the list loses inList here; the row itself is emptied at the end.
         private void markListed() {
             Row list = counting.list;
-            for (int i = 0; i < list.length; i++) {
+            for (int i = 0; i < OBJECTS && i < list.length; i++) {
                 Thing thing = list.item(i);
                 if (thing == null) {
                     continue;
@@ -583,7 +588,7 @@ public final class RingHeap {
 
         private void scanListed() {
             Row list = counting.list;
-            for (int i = 0; i < list.length; i++) {
+            for (int i = 0; i < OBJECTS && i < list.length; i++) {
                 Thing thing = list.item(i);
                 if (thing != null && thing.inList) {
                     scanFrom(thing);
@@ -656,7 +661,7 @@ public final class RingHeap {
 
         private void emptyList() {
             Row list = counting.list;
-            for (int i = 0; i < list.length; i++) {
+            for (int i = 0; i < OBJECTS && i < list.length; i++) {
                 Thing thing = list.item(i);
                 if (thing != null) {
                     thing.inList = false;

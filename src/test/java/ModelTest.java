@@ -1,23 +1,33 @@
-/** Long runs of calls, drawn by a fixed rule from a seed: class and Model must answer the same, always. */
+import java.util.ArrayList;
+import java.util.List;
+
+/**
+ * Long runs of calls, drawn by a fixed rule from a seed: class and Model must answer the same. No heap
+ * is asked more than the 512 calls of the document: to be looked at, a run is made again on new ones.
+ */
 public final class ModelTest {
     private static final int RUNS = 480;
-    private static final int CALLS = 512;
+    private static final int MOST_CALLS = 512;
+    private static final int CALLS = 400;
     // Looking at everything after each call would be dear: in most runs it is done now and then.
-    private static final int LOOK_EACH = 16;
+    private static final int LOOK_EACH = 40;
+    private static final int RUNS_LOOKED_AT_EACH = 79;
+    private static final String[] NAMES = {"make", "hold", "loose", "set", "wish", "collect", "pack", "weak", "object",
+        "get", "listed", "count", "seen", "at", "freed", "type", "type with a wish"};
 
     private long state;
-    private RingHeap heap;
-    private Model model;
+    private final List<int[]> calls = new ArrayList<>();
+    private final List<int[]> looks = new ArrayList<>();
+    private final RingHeap heap = new RingHeap();
+    private final Model model = new Model();
     private String last = "";
     private boolean wrong;
-    private int style;
+    private final int style;
     private int full;
     private int husks;
 
     private ModelTest(int seed) {
         state = seed * 7919L + 17;
-        heap = new RingHeap();
-        model = new Model();
         style = seed % 6;
     }
 
@@ -47,14 +57,14 @@ public final class ModelTest {
 
     private boolean passes(int seed) {
         tellTypes();
-        for (int call = 10; call < CALLS && !wrong; call++) {
+        while (calls.size() < CALLS && !wrong) {
             step();
-            if (seed % LOOK_EACH == 0 || call % LOOK_EACH == 0 || call == CALLS - 1) {
+            if (seed % RUNS_LOOKED_AT_EACH == 0 || calls.size() % LOOK_EACH == 0) {
                 lookAtAll();
             }
-            if (wrong) {
-                System.out.println("seed " + seed + ", call " + call + ": " + last);
-            }
+        }
+        if (wrong) {
+            System.out.println("seed " + seed + ", call " + calls.size() + ": " + last);
         }
         return !wrong;
     }
@@ -77,15 +87,7 @@ public final class ModelTest {
     }
 
     private void tell(int t, int fields, int extra, boolean wish) {
-        int got;
-        try {
-            got = heap.type(t, fields, extra, wish) ? 1 : 0;
-        } catch (IndexOutOfBoundsException e) {
-            got = Model.INDEX;
-        } catch (IllegalArgumentException e) {
-            got = Model.ARGUMENT;
-        }
-        compare("type(" + t + ", " + fields + ", " + extra + ", " + wish + ")", got, model.type(t, fields, extra, wish));
+        ask(wish ? 16 : 15, t, fields, extra);
     }
 
     /** Most draws are of objects that are there, so that rings come about. */
@@ -128,27 +130,52 @@ public final class ModelTest {
     }
 
     private void lookAtAll() {
+        looks.clear();
         for (int n = -1; n <= 80; n++) {
             for (int what = -1; what <= 8; what++) {
-                ask(8, n, what, 0);
+                look(8, n, what);
             }
             for (int field = -1; field <= 6; field++) {
-                ask(9, n, field, 0);
+                look(9, n, field);
             }
-            ask(10, n, 0, 0);
         }
-        for (int what = -1; what <= 9; what++) {
-            ask(11, what, 0, 0);
+        lookThrough(10, 80);
+        lookThrough(11, 9);
+        lookThrough(12, 20);
+        lookThrough(13, 400);
+        lookThrough(14, model.count(4));
+        int looksAHeap = MOST_CALLS - calls.size();
+        RingHeap again = heap;
+        for (int i = 0; i < looks.size() && !wrong; i++) {
+            if (i % looksAHeap == 0) {
+                again = allAgain();
+            }
+            compare(looks.get(i), answer(again, looks.get(i)));
         }
-        for (int w = -1; w <= 20; w++) {
-            ask(12, w, 0, 0);
+        lookAtModel();
+    }
+
+    private void look(int call, int a, int b) {
+        looks.add(new int[] {call, a, b, 0});
+    }
+
+    private void lookThrough(int call, int last) {
+        for (int i = -1; i <= last; i++) {
+            look(call, i, 0);
         }
-        for (int word = -1; word <= 400; word++) {
-            ask(13, word, 0, 0);
+    }
+
+    private RingHeap allAgain() {
+        RingHeap again = new RingHeap();
+        for (int[] call : calls) {
+            answer(again, call);
         }
-        int freed = model.count(4);
-        for (int i = -1; i <= freed; i++) {
-            ask(14, i, 0, 0);
+        return again;
+    }
+
+    private void lookAtModel() {
+        for (int n = 0; n < 80; n++) {
+            husks += model.object(n, 7) == 1 ? 1 : 0;
         }
         String broken = model.broken();
         if (broken != null && !wrong) {
@@ -158,38 +185,40 @@ public final class ModelTest {
     }
 
     private void ask(int call, int a, int b, int c) {
-        int got;
-        try {
-            got = heapAnswers(call, a, b, c);
-        } catch (IndexOutOfBoundsException e) {
-            // The machine's own exceptions are subclasses of it, and none of them is due.
-            got = e.getClass() == IndexOutOfBoundsException.class ? Model.INDEX : -9999;
-        }
-        String[] names = {"make", "hold", "loose", "set", "wish", "collect", "pack", "weak", "object", "get",
-            "listed", "count", "seen", "at", "freed"};
-        int due = modelAnswers(call, a, b, c);
-        full += call == 0 && due == -2 ? 1 : 0;
-        husks += call == 8 && b == 7 && due == 1 ? 1 : 0;
-        compare(names[call] + "(" + a + ", " + b + ", " + c + ")", got, due);
+        int[] asked = {call, a, b, c};
+        calls.add(asked);
+        compare(asked, answer(heap, asked));
     }
 
-    private int heapAnswers(int call, int a, int b, int c) {
+    private static int answer(RingHeap x, int[] c) {
+        try {
+            return heapAnswers(x, c[0], c[1], c[2], c[3]);
+        } catch (IndexOutOfBoundsException e) {
+            // The machine's own exceptions are subclasses of it, and none of them is due.
+            return e.getClass() == IndexOutOfBoundsException.class ? Model.INDEX : -9999;
+        } catch (IllegalArgumentException e) {
+            return Model.ARGUMENT;
+        }
+    }
+
+    private static int heapAnswers(RingHeap x, int call, int a, int b, int c) {
         switch (call) {
-            case 0: return heap.make(a);
-            case 1: return heap.hold(a);
-            case 2: return heap.loose(a);
-            case 3: return heap.set(a, b, c);
-            case 4: return heap.wish();
-            case 5: return heap.collect();
-            case 6: return heap.pack();
-            case 7: return heap.weak(a, b);
-            case 8: return heap.object(a, b);
-            case 9: return heap.get(a, b);
-            case 10: return heap.listed(a);
-            case 11: return heap.count(a);
-            case 12: return heap.seen(a);
-            case 13: return heap.at(a);
-            default: return heap.freed(a);
+            case 0: return x.make(a);
+            case 1: return x.hold(a);
+            case 2: return x.loose(a);
+            case 3: return x.set(a, b, c);
+            case 4: return x.wish();
+            case 5: return x.collect();
+            case 6: return x.pack();
+            case 7: return x.weak(a, b);
+            case 8: return x.object(a, b);
+            case 9: return x.get(a, b);
+            case 10: return x.listed(a);
+            case 11: return x.count(a);
+            case 12: return x.seen(a);
+            case 13: return x.at(a);
+            case 14: return x.freed(a);
+            default: return x.type(a, b, c, call == 16) ? 1 : 0;
         }
     }
 
@@ -209,14 +238,18 @@ public final class ModelTest {
             case 11: return model.count(a);
             case 12: return model.seen(a);
             case 13: return model.at(a);
-            default: return model.freed(a);
+            case 14: return model.freed(a);
+            default: return model.type(a, b, c, call == 16);
         }
     }
 
-    private void compare(String call, int got, int due) {
+    private void compare(int[] call, int got) {
+        int due = modelAnswers(call[0], call[1], call[2], call[3]);
+        full += call[0] == 0 && due == -2 ? 1 : 0;
         if (got != due && !wrong) {
             wrong = true;
-            last = call + " answered " + got + ", due is " + due;
+            last = NAMES[call[0]] + "(" + call[1] + ", " + call[2] + ", " + call[3] + ") answered " + got + ", due is "
+                    + due;
         }
     }
 }

@@ -1,30 +1,5 @@
 /** Each promise by hand: ordinary inputs, the edges that the document names, and wrong inputs. */
-public final class PromiseTest {
-    private static final Class<IndexOutOfBoundsException> INDEX = IndexOutOfBoundsException.class;
-    private static final Class<IllegalArgumentException> ARGUMENT = IllegalArgumentException.class;
-    private static final int NONE = RingHeap.NONE;
-    private static final int FULL = RingHeap.FULL;
-    private static final int MIN = Integer.MIN_VALUE;
-    private static final int MAX = Integer.MAX_VALUE;
-
-    // The whats of object(), then those of count().
-    private static final int COUNT = 1;
-    private static final int COLOUR = 2;
-    private static final int ADDRESS = 3;
-    private static final int LISTED = 4;
-    private static final int WISH_OPEN = 5;
-    private static final int HANDS = 6;
-    private static final int HUSK = 7;
-    private static final int OBJECTS = 0;
-    private static final int IN_LIST = 1;
-    private static final int WISHES = 2;
-    private static final int FREE_WORDS = 3;
-    private static final int FREED = 4;
-    private static final int COLLECTIONS = 5;
-    private static final int MOVES = 6;
-    private static final int GRAYED = 7;
-    private static final int BLACKENED = 8;
-
+public final class PromiseTest extends HeapCase {
     private PromiseTest() {
     }
 
@@ -58,45 +33,6 @@ public final class PromiseTest {
         Check.end();
     }
 
-    /** Type 0: two fields; 1: green, 3 extra words; 2: one field and a wish; 3: green with a wish; 4: one field. */
-    private static RingHeap heap() {
-        RingHeap x = new RingHeap();
-        x.type(0, 2, 0, false);
-        x.type(1, 0, 3, false);
-        x.type(2, 1, 0, true);
-        x.type(3, 0, 0, true);
-        x.type(4, 1, 0, false);
-        return x;
-    }
-
-    private static void counts(RingHeap x, int... due) {
-        for (int what = 0; what < due.length; what++) {
-            Check.same("count(" + what + ")", x.count(what), due[what]);
-        }
-    }
-
-    private static void row(String what, int[] got, int... due) {
-        for (int i = 0; i < due.length; i++) {
-            Check.same(what + " " + i, got[i], due[i]);
-        }
-    }
-
-    private static int[] freedFrom(RingHeap x, int first, int many) {
-        int[] got = new int[many];
-        for (int i = 0; i < many; i++) {
-            got[i] = x.freed(first + i);
-        }
-        return got;
-    }
-
-    private static int[] list(RingHeap x, int many) {
-        int[] got = new int[many];
-        for (int i = 0; i < many; i++) {
-            got[i] = x.listed(i);
-        }
-        return got;
-    }
-
     private static void promise1NewObject() {
         Check.part("promise 1");
         RingHeap x = new RingHeap();
@@ -111,15 +47,16 @@ public final class PromiseTest {
         for (int word = 0; word < 400; word++) {
             Check.same("at(" + word + ")", x.at(word), NONE);
         }
+        RingHeap y = new RingHeap();
         for (int object = 0; object < 80; object++) {
-            Check.same("object(" + object + ", 0)", x.object(object, 0), NONE);
+            Check.same("object(" + object + ", 0)", y.object(object, 0), NONE);
         }
-        Check.same("listed(0)", x.listed(0), NONE);
-        Check.same("freed(0)", x.freed(0), NONE);
-        Check.same("wish()", x.wish(), NONE);
+        Check.same("listed(0)", y.listed(0), NONE);
+        Check.same("freed(0)", y.freed(0), NONE);
+        Check.same("wish()", y.wish(), NONE);
         RingHeap other = heap();
         other.make(0);
-        Check.same("another heap is apart", x.count(OBJECTS), 0);
+        Check.same("another heap is apart", y.count(OBJECTS), 0);
     }
 
     private static void promise2Type() {
@@ -915,12 +852,6 @@ public final class PromiseTest {
         object(x, 1, 2, 0, 0, 5, 1, 0, 0, 1);
         x.collect();
         Check.same("gone", x.object(1, 7), NONE);
-    }
-
-    private static void object(RingHeap x, int object, int... due) {
-        for (int what = 0; what < due.length; what++) {
-            Check.same("object(" + object + ", " + what + ")", x.object(object, what), due[what]);
-        }
     }
 
     private static void promise14Count() {
